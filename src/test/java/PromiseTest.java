@@ -177,6 +177,8 @@ public final class PromiseTest {
         fault("v0 00;", 3);
         fault("v01;", 1);
         fault("v10 1;", 1);
+        fault("v19 1;", 1);
+        fault("v9 1;", 1);
         fault("v0 12345678901234567890;", 3);
         fault("v0 1 2;", 5);
         fault("v;", 1);
@@ -184,6 +186,10 @@ public final class PromiseTest {
         fault("t;r1 0;", 3);
         fault("t;r0 4;", 5);
         fault("r0 0;t;", 1);
+        fault("r t;", 2);
+        fault("t;r0 t;", 5);
+        fault("v t;", 2);
+        fault("v0 t;", 3);
         fault("t", 1);
         fault("t t", 2);
         fault("tv0 1;", 1);
@@ -219,6 +225,12 @@ public final class PromiseTest {
         fault("v0-1;", 2);
         fault("v0 1;" + "v1 2;" + "z", 10);
         fault("v3 0;y", 1);
+        WaitPlaces x = new WaitPlaces();
+        due("a number of two digits", Check.tell(x, "v0 12;"), -13);
+        due("letters that were cleared are gone", Check.tell(x, "v0 1"), -14);
+        StringBuilder digits = new StringBuilder("v0 ");
+        while (digits.length() < 120) digits.append('1');
+        due("digits up to the last letter", Check.tell(x, digits.toString()), -13);
     }
 
     private static void threadsTellAnew() {
@@ -240,6 +252,17 @@ public final class PromiseTest {
         dueThread("anew", x, 0, "00-000");
         due("states anew", x.all(0), 2);
         due("no thread 1", x.thread(1, 0), BAD);
+        due("values and ranks", Check.tell(x, "v0 1;v1 2;v2 3;t;t;t;t;r0 3;r1 2;r2 1;r3 3;"), 11);
+        for (int n = 0; n < 2; n++) {
+            due("all but values and ranks", Check.tell(x, "tw0 0;tl0;tl0xi0;tb1 0;"), 4);
+            for (int p = 0; p < 3; p++) duePlace("not told", x, p, "0-000");
+            for (int t = 0; t < 4; t++) dueThread("not told", x, t, "00-000");
+            Check.dueRow("not told", x, "");
+            Check.steps(x, n == 0 ? "2103" : "223");
+        }
+        due("the same again, place 0 dead", Check.tell(x, "tw0 0;tl0;tl0xi0;tb1 0;"), 4);
+        for (int p = 0; p < 3; p++) duePlace("no more dead", x, p, "0-000");
+        for (int t = 0; t < 4; t++) dueThread("no more between", x, t, "00-000");
         due("empty text", Check.tell(x, ""), 0);
         due("no threads", x.count(0), 0);
         due("one state", x.all(0), 1);
@@ -313,9 +336,16 @@ public final class PromiseTest {
         Check.steps(x, "0");
         due("no more lent to 0", x.thread(0, 4), 1);
         due("still lent to 1", x.thread(1, 4), 3);
-        WaitPlaces y = Check.told("tw0 0;tl1;r0 3;");
+        WaitPlaces y = Check.told("tw0 0;tl0u0;r0 3;");
         Check.steps(y, "10");
         due("a sleeper lends nothing", y.thread(1, 4), 0);
+        Check.steps(y, "1");
+        due("a sleeper gets nothing", y.place(0, 1), NONE);
+        due("it sleeps on", y.thread(0, 1), 1);
+        WaitPlaces z = Check.told("tl2;tl2l1;tl1l0;tl0;r0 3;");
+        Check.steps(z, "321");
+        Check.steps(z, "012");
+        for (int t = 0; t < 4; t++) due("lent the other way round to " + t, z.thread(t, 4), 3);
     }
 
     private static void row() {
