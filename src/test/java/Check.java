@@ -2,6 +2,7 @@
 final class Check {
     private static int answers = 0;
     private static int wrong = 0;
+    private static String heading = "";
 
     private Check() {
     }
@@ -10,7 +11,24 @@ final class Check {
         answers++;
         if (got == want) return;
         wrong++;
-        if (wrong <= 50) System.out.println(what + " answered " + got + ", due is " + want);
+        if (wrong <= 50) System.out.println(heading + what + " answered " + got + ", due is " + want);
+    }
+
+    static void same(String what, String got, String want) {
+        due(what + ": is '" + got + "', due is '" + want + "'; same", got.equals(want) ? 1 : 0, 1);
+    }
+
+    /** What stands ahead of each wrong answer from here on. */
+    static void head(String words) {
+        heading = words;
+    }
+
+    static int answers() {
+        return answers;
+    }
+
+    static int wrong() {
+        return wrong;
     }
 
     static void type(WaitPlaces x, String text) {
@@ -39,6 +57,32 @@ final class Check {
         }
     }
 
+    /** Digits of place(p, 0 .. 4), with '-' for NONE. */
+    static String place(WaitPlaces x, int p) {
+        StringBuilder all = new StringBuilder();
+        for (int what = 0; what < 5; what++) all.append(sign(x.place(p, what)));
+        return all.toString();
+    }
+
+    /** Digits of thread(t, 0 .. 5), with '-' for NONE. */
+    static String thread(WaitPlaces x, int t) {
+        StringBuilder all = new StringBuilder();
+        for (int what = 0; what < 6; what++) all.append(sign(x.thread(t, what)));
+        return all.toString();
+    }
+
+    private static String sign(int answer) {
+        return answer == WaitPlaces.NONE ? "-" : "" + answer;
+    }
+
+    static void duePlace(String what, WaitPlaces x, int p, String want) {
+        same(what + ": place " + p, place(x, p), want);
+    }
+
+    static void dueThread(String what, WaitPlaces x, int t, String want) {
+        same(what + ": thread " + t, thread(x, t), want);
+    }
+
     static String row(WaitPlaces x) {
         StringBuilder all = new StringBuilder();
         for (int k = 0; k < 4 && x.row(k) >= 0; k++) all.append(x.row(k));
@@ -46,7 +90,7 @@ final class Check {
     }
 
     static void dueRow(String what, WaitPlaces x, String want) {
-        due(what + ": row is '" + row(x) + "', due is '" + want + "'; same", row(x).equals(want) ? 1 : 0, 1);
+        same(what + ": row", row(x), want);
         due(what + ": length of the row", x.count(1), want.length());
     }
 
@@ -60,7 +104,7 @@ final class Check {
     }
 
     static void dueWorst(String what, WaitPlaces x, String want) {
-        due(what + ": worst is '" + worst(x) + "', due is '" + want + "'; same", worst(x).equals(want) ? 1 : 0, 1);
+        same(what + ": worst", worst(x), want);
     }
 
     static void end(String name) {

@@ -46,32 +46,12 @@ public final class PromiseTest {
         Check.due(what, got, want);
     }
 
-    /** Digits of place(p, 0 .. 4), with '-' for NONE. */
-    private static String placeText(WaitPlaces x, int p) {
-        StringBuilder all = new StringBuilder();
-        for (int what = 0; what < 5; what++) all.append(sign(x.place(p, what)));
-        return all.toString();
-    }
-
-    /** Digits of thread(t, 0 .. 5), with '-' for NONE. */
-    private static String threadText(WaitPlaces x, int t) {
-        StringBuilder all = new StringBuilder();
-        for (int what = 0; what < 6; what++) all.append(sign(x.thread(t, what)));
-        return all.toString();
-    }
-
-    private static String sign(int answer) {
-        return answer == NONE ? "-" : "" + answer;
-    }
-
     private static void duePlace(String what, WaitPlaces x, int p, String want) {
-        String got = placeText(x, p);
-        due(what + ": place " + p + " is " + got + ", due is " + want + "; same", got.equals(want) ? 1 : 0, 1);
+        Check.duePlace(what, x, p, want);
     }
 
     private static void dueThread(String what, WaitPlaces x, int t, String want) {
-        String got = threadText(x, t);
-        due(what + ": thread " + t + " is " + got + ", due is " + want + "; same", got.equals(want) ? 1 : 0, 1);
+        Check.dueThread(what, x, t, want);
     }
 
     private static void newObject() {

@@ -1,0 +1,17 @@
+import java.io.IOException;
+
+/** Each sentence of the document has a test of its own, with the promise's number and the sentence beside it. */
+public final class BoundaryTest {
+    private BoundaryTest() {
+    }
+
+    public static void main(String[] args) throws IOException {
+        Boundaries.open();
+        TextBoundaries.tests();
+        StepBoundaries.tests();
+        EveryBoundaries.tests();
+        CallBoundaries.tests();
+        Boundaries.close();
+        Check.end("BoundaryTest");
+    }
+}
