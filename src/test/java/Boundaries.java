@@ -13,7 +13,11 @@ abstract class Boundaries {
     private static final TreeSet<Integer> promises = new TreeSet<>();
     private static int sentences = 0;
 
-    static void open() throws IOException {
+    private static boolean named = false;
+
+    /** Named: each sentence is printed, for those who look which of them a change breaks. */
+    static void open(boolean withNames) throws IOException {
+        named = withNames;
         if (Document.isThere()) document = Document.read();
         else System.out.println("the document is not there: its words were not compared");
     }
@@ -24,7 +28,9 @@ abstract class Boundaries {
         promises.add(promise);
         int asked = Check.answers();
         int wrong = Check.wrong();
-        Check.head("promise " + promise + " \"" + sentence + "\": ");
+        String name = "promise " + promise + " \"" + sentence + "\"";
+        if (named) System.out.println("SENTENCE: " + name);
+        Check.head(name + ": ");
         if (document != null) Check.due("the document has these words", document.quote(promise, sentence) ? 1 : 0, 1);
         int ahead = Check.answers();
         try {
@@ -35,8 +41,7 @@ abstract class Boundaries {
         Check.due("something was asked", Check.answers() > ahead ? 1 : 0, 1);
         Check.head("");
         if (Check.wrong() > wrong) {
-            System.out.println("BROKEN: promise " + promise + " \"" + sentence + "\", "
-                + (Check.wrong() - wrong) + " of " + (Check.answers() - asked));
+            System.out.println("BROKEN: " + name + ", " + (Check.wrong() - wrong) + " of " + (Check.answers() - asked));
         }
     }
 

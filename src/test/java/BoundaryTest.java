@@ -6,7 +6,7 @@ public final class BoundaryTest {
     }
 
     public static void main(String[] args) throws IOException {
-        Boundaries.open();
+        Boundaries.open(args.length > 0);
         TextBoundaries.tests();
         StepBoundaries.tests();
         EveryBoundaries.tests();

@@ -424,9 +424,17 @@ final class CallBoundaries extends Boundaries {
     }
 
     private static void constants() {
-        due("BAD", WaitPlaces.BAD, -1);
-        due("STATE", WaitPlaces.STATE, -2);
-        due("FULL", WaitPlaces.FULL, -3);
-        due("NONE", WaitPlaces.NONE, -9);
+        String[] names = {"BAD", "STATE", "FULL", "NONE"};
+        int[] want = {-1, -2, -3, -9};
+        for (int n = 0; n < names.length; n++) due(names[n], constant(names[n]), want[n]);
+    }
+
+    /** As the class has it now: a compiler would put the number itself here. */
+    private static int constant(String name) {
+        try {
+            return WaitPlaces.class.getField(name).getInt(null);
+        } catch (ReflectiveOperationException missing) {
+            throw new IllegalStateException(missing);
+        }
     }
 }

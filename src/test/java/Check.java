@@ -1,5 +1,6 @@
 /** What the tests share: answers that are due, and texts told letter by letter. */
 final class Check {
+    private static final int NONE = -9;
     private static int answers = 0;
     private static int wrong = 0;
     private static String heading = "";
@@ -72,7 +73,7 @@ final class Check {
     }
 
     private static String sign(int answer) {
-        return answer == WaitPlaces.NONE ? "-" : "" + answer;
+        return answer == NONE ? "-" : "" + answer;
     }
 
     static void duePlace(String what, WaitPlaces x, int p, String want) {
@@ -97,7 +98,7 @@ final class Check {
     /** The way of worst() as digits, or "none". */
     static String worst(WaitPlaces x) {
         int steps = x.worst(-1);
-        if (steps == WaitPlaces.NONE) return "none";
+        if (steps == NONE) return "none";
         StringBuilder way = new StringBuilder();
         for (int k = 0; k < steps; k++) way.append(x.worst(k));
         return way.toString();

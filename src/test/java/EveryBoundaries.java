@@ -76,6 +76,11 @@ final class EveryBoundaries extends Boundaries {
         }
         y.undo();
         dueAll("one undone", y, 2, 1, 0, 1);
+        y.keep(0);
+        y.undo();
+        dueAll("two undone", y, 3, 1, 0, 2);
+        y.back(0);
+        dueAll("an image", y, 2, 1, 0, 1);
         y.threads();
         dueAll("told anew", y, 1, 1, 0, 0);
     }
@@ -244,6 +249,11 @@ final class EveryBoundaries extends Boundaries {
         due("by one that is done, now", x.can(0, 1), 2);
         Check.tell(x, "tl0x;tl0;");
         due("by one that dies, too", x.can(0, 1), 3);
+        Check.tell(x, "tl0u0;");
+        Check.steps(x, "0");
+        due("now alone", x.can(0, 1), 1);
+        Check.steps(x, "0");
+        due("no more", x.can(0, 1), 0);
     }
 
     private static void slept() {

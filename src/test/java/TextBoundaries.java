@@ -521,6 +521,16 @@ final class TextBoundaries extends Boundaries {
         due("and again", Check.tell(x, "tl0x;"), 1);
         due("not dead", x.place(0, 2), 0);
         due("nothing behind", x.thread(0, 0), 0);
+        for (int n = 0; n < 2; n++) {
+            due("values and ranks", Check.tell(x, "v0 1;v1 2;v2 3;tb0 1;tb1 2;tb2 3;tb0 1;r0 3;r1 2;r2 1;r3 3;"), 11);
+            Check.steps(x, "0123");
+        }
+        for (int n = 0; n < 2; n++) {
+            due("neither", Check.tell(x, "tb0 0;tb1 0;tb2 0;tb0 0;"), 4);
+            for (int p = 0; p < 3; p++) Check.duePlace("neither", x, p, "0-000");
+            for (int t = 0; t < 4; t++) Check.dueThread("neither", x, t, "00-000");
+            Check.steps(x, "0123");
+        }
     }
 
     private static void leastAndGreatestFault() {
