@@ -26,6 +26,10 @@ final class CallBoundaries extends Boundaries {
         test(19, "5 how many may be UNDONE.", CallBoundaries::countUndone);
         test(19, "BAD.", CallBoundaries::noSuchCount);
 
+        test(3, "THE TEXT is empty", CallBoundaries::clearsTheTextAlone);
+        test(15, "Nothing is SEEN", CallBoundaries::forgetsWhatWasSeenAlone);
+        test(9, "UNDONE: the latest step()", CallBoundaries::undoesAStepAlone);
+        test(10, "nothing is changed.)", CallBoundaries::askingChangesNothing);
         test(8, "Refused, and nothing changes,", CallBoundaries::refusedByBad);
         test(9, "Refused, and nothing changes, the first of these: BAD", CallBoundaries::refusedByStateOrFull);
         test(18, "the first of these: BAD (a number is not as told, or there is no such thing), STATE (as told), FULL",
@@ -37,15 +41,21 @@ final class CallBoundaries extends Boundaries {
 
     /** One that died, one between, one asleep, one that waits; one FOUND DEAD; two SEEN; letters; image 0 kept earlier. */
     private static WaitPlaces busy() {
+        WaitPlaces x = busyUntold();
+        x.sees(0, 1);
+        x.sees(1, 2);
+        Check.type(x, "v0 1;t");
+        return x;
+    }
+
+    /** The same with nothing SEEN and without letters. */
+    private static WaitPlaces busyUntold() {
         WaitPlaces x = Check.told("v1 2;tl0l2xi0;tl0b1 2i0;tw1 2l0;ti0l0;r1 1;r2 3;r3 2;");
         Check.steps(x, "00");
         x.keep(0);
         Check.steps(x, "1");
         Check.steps(x, "0");
         Check.steps(x, "2331");
-        x.sees(0, 1);
-        x.sees(1, 2);
-        Check.type(x, "v0 1;t");
         return x;
     }
 
@@ -168,9 +178,8 @@ final class CallBoundaries extends Boundaries {
     }
 
     private static void backAnswers() {
-        WaitPlaces x = new WaitPlaces();
         for (int n = 0; n <= 4; n++) {
-            Check.tell(x, "ti0i0;".repeat(n));
+            WaitPlaces x = Check.told("ti0i0;".repeat(n));
             for (int image = 0; image < 2; image++) {
                 x.keep(image);
                 String kept = how(x);
@@ -308,15 +317,74 @@ final class CallBoundaries extends Boundaries {
     private static void refused(String call, int want, WaitPlaces x, WaitPlaces y, ToIntFunction<WaitPlaces> refusal) {
         due(call, refusal.applyAsInt(x), want);
         Check.same("look behind " + call, look(x), look(y));
+        stayAlike(call, x, y);
+    }
+
+    /** Without a look over all states ahead of it, which could change both in the same way. */
+    private static void stayAlike(String call, WaitPlaces x, WaitPlaces y) {
+        for (int what = 0; what < 6; what++) due("count(" + what + ") behind " + call, x.count(what), y.count(what));
+        Check.same("how it is behind " + call, how(x), how(y));
         due("undo behind " + call, x.undo(), y.undo());
         Check.same("undone behind " + call, how(x), how(y));
         for (int image = 0; image < 2; image++) {
             due("back behind " + call, x.back(image), y.back(image));
             Check.same("back behind " + call, how(x), how(y));
         }
+        due("unseen behind " + call, x.unseen(0), y.unseen(0));
         due("threads behind " + call, x.threads(), y.threads());
         Check.same("told behind " + call, how(x), how(y));
         due("clear behind " + call, x.clear(), y.clear());
+    }
+
+    private static void clearsTheTextAlone() {
+        WaitPlaces x = busyUntold();
+        Check.type(x, "v0 1;t");
+        due("clear", x.clear(), 6);
+        stayAlike("clear", x, busyUntold());
+        WaitPlaces y = busy();
+        y.clear();
+        due("SEEN stays", y.count(3), 2);
+        due("what was SEEN stays", y.unseen(0), busy().unseen(0));
+    }
+
+    private static void forgetsWhatWasSeenAlone() {
+        WaitPlaces x = busyUntold();
+        x.sees(0, 1);
+        x.sees(1, 2);
+        due("forget", x.forget(), 2);
+        stayAlike("forget", x, busyUntold());
+        WaitPlaces y = busy();
+        y.forget();
+        due("letters stay", y.count(4), 6);
+        due("what they tell stays", y.type(';'), 7);
+        due("it is read", y.threads(), 2);
+    }
+
+    private static void undoesAStepAlone() {
+        WaitPlaces x = busy();
+        Check.steps(x, "1");
+        due("undo", x.undo(), 8);
+        stayAlike("undo", x, busy());
+    }
+
+    private static void asked(String call, ToIntFunction<WaitPlaces> question) {
+        WaitPlaces x = busy();
+        due(call + " is not refused", question.applyAsInt(x) >= 0 ? 1 : 0, 1);
+        stayAlike(call, x, busy());
+    }
+
+    private static void askingChangesNothing() {
+        for (int n = 0; n < 4; n++) {
+            int what = n;
+            asked("all(" + what + ")", x -> x.all(what));
+        }
+        asked("worst(-1)", x -> x.worst(-1));
+        asked("worst(0)", x -> x.worst(0));
+        asked("can(0, 0)", x -> x.can(0, 0));
+        asked("can(0, 1)", x -> x.can(0, 1));
+        asked("slept()", x -> x.slept());
+        asked("unseen(0)", x -> x.unseen(0));
+        asked("unseen(1)", x -> x.unseen(1));
     }
 
     private static void refusedBusy(String call, int want, ToIntFunction<WaitPlaces> refusal) {

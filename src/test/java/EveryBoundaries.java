@@ -72,6 +72,7 @@ final class EveryBoundaries extends Boundaries {
         WaitPlaces y = Check.told("ti0i0i0i0i0;");
         for (int n = 0; n <= 5; n++) {
             dueAll("behind " + n, y, 6 - n, 1, 0, 5 - n);
+            due("unseen behind " + n, y.unseen(0), 1);
             if (n < 5) Check.steps(y, "0");
         }
         y.undo();

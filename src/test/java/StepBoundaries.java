@@ -297,6 +297,10 @@ final class StepBoundaries extends Boundaries {
         Check.dueThread("the owner sleeps", y, 1, "120000");
         Check.dueRow("the owner sleeps", y, "01");
 
+        WaitPlaces w = Check.told("tl0w1 0;tl1l0;");
+        Check.steps(w, "0101");
+        Check.dueThread("the owner sleeps at a place that the other owns", w, 1, "120000");
+
         WaitPlaces z = Check.told("tl0l1;tl1i0;tl2l0;");
         Check.steps(z, "01202");
         Check.dueThread("the owner waits for one that goes on", z, 2, "120000");
@@ -475,13 +479,16 @@ final class StepBoundaries extends Boundaries {
     }
 
     private static void undoesTheLatest() {
-        WaitPlaces x = Check.told("tl0l1x;tl0b2 0;tw1 0;ti0;r1 2;");
+        String text = "tl0l1x;tl0b2 0;tw1 0;ti0;r1 2;";
         String order = "002101";
+        WaitPlaces y = Check.told(text);
         String[] ahead = new String[order.length()];
         for (int n = 0; n < order.length(); n++) {
-            ahead[n] = how(x);
-            Check.steps(x, order.substring(n, n + 1));
+            ahead[n] = how(y);
+            Check.steps(y, order.substring(n, n + 1));
         }
+        WaitPlaces x = Check.told(text);
+        Check.steps(x, order);
         due("refused: asleep", x.step(2), STATE);
         due("refused: done", x.step(0), STATE);
         due("refused: no such thread", x.step(4), BAD);

@@ -408,6 +408,7 @@ final class TextBoundaries extends Boundaries {
         }
         fault("v0 1   ", 7);
         fault("t" + blanks(119), 120);
+        fault(blanks(118) + "v1", 120);
         fault("txxxxx", 6);
     }
 
@@ -473,6 +474,10 @@ final class TextBoundaries extends Boundaries {
         Check.type(x, "0".repeat(120));
         due("of 120", x.clear(), 120);
         due("nothing is left of it", Check.tell(x, "t;"), 1);
+        Check.type(x, "v0 12");
+        x.clear();
+        due("no digit is left of it, either", Check.tell(x, "v0 1"), -14);
+        x.clear();
         Check.type(x, "y");
         due("a fault", x.threads(), -10);
         due("of one that has a fault", x.clear(), 1);
