@@ -27,6 +27,7 @@ public final class FaceTest {
 
     public static void main(String[] args) throws IOException {
         face();
+        documentsFace();
         nested();
         source();
         methodLengths();
@@ -67,6 +68,35 @@ public final class FaceTest {
         }
         String kind = "public static final ";
         holds("constants are " + constants, constants.equals(Set.of(kind + "BAD", kind + "STATE", kind + "FULL", kind + "NONE")));
+    }
+
+    /** The document's own lines: its calls are those of the list above, its constants have its values. */
+    private static void documentsFace() throws IOException {
+        Path place = Path.of("../shared/DOC.md");
+        if (!Files.isReadable(place)) return;
+        String document = Files.readString(place);
+        int from = document.indexOf("## The public face");
+        int to = document.indexOf("## Terms");
+        holds("the document has its face ahead of its terms", from >= 0 && to > from);
+        if (from < 0 || to < from) return;
+        Set<String> calls = new TreeSet<>();
+        int constants = 0;
+        for (String line : document.substring(from, to).split("\n")) {
+            Matcher call = Pattern.compile(" *public int (\\w+)\\((.*)\\);").matcher(line);
+            if (call.matches()) calls.add(call.group(1) + "(" + call.group(2).replaceAll("int \\w+", "int").replace(" ", "") + ")");
+            if (!line.contains("static final int")) continue;
+            for (Matcher one = Pattern.compile("(\\w+) = (-?\\d+)").matcher(line); one.find(); constants++) constant(one.group(1), one.group(2));
+        }
+        holds("the document's calls are " + calls, calls.equals(new TreeSet<>(METHODS)));
+        Check.due("the document's constants", constants, 4);
+    }
+
+    private static void constant(String name, String value) {
+        try {
+            Check.due(name, WaitPlaces.class.getField(name).getInt(null), Integer.parseInt(value));
+        } catch (ReflectiveOperationException missing) {
+            holds("there is a constant " + name, false);
+        }
     }
 
     private static void nested() {
